@@ -54,6 +54,7 @@ public final class P04TickTest {
         Bench.due("two steps", x.job(0, 2), 2);
         Bench.due("PLACE behind the end", x.job(0, 3), 2);
         Bench.due("not yet over", x.job(0, 0), 2);
+        Bench.due("no outcome before it is over", x.job(0, 1), 0);
         Bench.due("not yet gone", x.process(0, 0), 0);
         x.tick(1);
         Bench.due("over", x.job(0, 0), 3);
@@ -174,7 +175,7 @@ public final class P04TickTest {
             x.tick(1);
         }
         Bench.due("turns of three: " + order, order.indexOf("000111000111000") >= 0, true);
-        while (x.process(0, 0) != 0 || x.process(1, 0) != 1) {
+        for (int i = 0; i < 50 && (x.process(0, 0) != 0 || x.process(1, 0) != 1); i++) {
             x.tick(1);
         }
         x.type('C');

@@ -162,11 +162,16 @@ public final class P06TypeTest {
         x.tick(1);
         Bench.due("1 is woken", x.process(1, 1), 0);
         Bench.due("1 is ready", x.process(1, 0), 0);
+        x.tick(2);
+        Bench.due("1 is over", x.job(1, 0), 3);
+        Bench.submit(x, 1, Bench.JUMP);
+        Bench.line(x, "A1");
+        x.tick(1);
         Bench.line(x, "R0 1");
-        x.tick(6);
-        Bench.due("1 left the row of GETS", x.job(1, 6), 0);
+        Bench.go(x, 12);
+        Bench.due("the old 1 left the row of GETS", x.job(1, 6), 0);
         Bench.due("2 has the reader", x.job(2, 6), 1);
-        Bench.due("1 is cancelled", x.job(1, 1), 5);
+        Bench.dueSaid("1 is cancelled", x, "0?\n1=5\n");
     }
 
     private static void replies() {

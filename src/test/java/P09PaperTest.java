@@ -38,7 +38,7 @@ public final class P09PaperTest {
         x.tick(3);
         x.done(0);
         int lines = 0;
-        while (lines < 150) {
+        for (int i = 0; i < 400 && lines < 150; i++) {
             x.tick(20);
             lines += x.done(2) ? 1 : 0;
         }
