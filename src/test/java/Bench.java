@@ -1,4 +1,7 @@
-/** What the tests of the promises share: a count of wrong answers, decks and typed lines. */
+/**
+ * What the tests of the promises share: a count of wrong answers, decks and typed lines. Each object
+ * is used for at most 512 calls, since the document promises nothing beyond them.
+ */
 final class Bench {
     static final int END = 0;
     static final int LOAD = 1 * 256;
@@ -84,8 +87,72 @@ final class Bench {
         DrumLayers x = new DrumLayers(4, 6, 1);
         submit(x, claims, program);
         line(x, "A0");
-        go(x, 200);
+        go(x, 80);
         return x;
+    }
+
+    /** So many words, all 0 but those that are told: place, word, place, word. */
+    static int[] words(int length, int... placesAndWords) {
+        int[] all = new int[length];
+        for (int i = 0; i + 1 < placesAndWords.length; i += 2) {
+            all[placesAndWords[i]] = placesAndWords[i + 1];
+        }
+        return all;
+    }
+
+    static int deck(DrumLayers x, int[] program, int[] cards, int segments, int limit, int claims) {
+        int[] all = java.util.Arrays.copyOf(program, program.length + cards.length);
+        System.arraycopy(cards, 0, all, program.length, cards.length);
+        feed(x, all);
+        return x.submit(program.length, cards.length, segments, limit, claims);
+    }
+
+    /** Admits the only job: its first segment is in core, and it is alone in the ready row. */
+    static void begin(DrumLayers x, int k) {
+        line(x, "A" + k);
+        x.tick(3);
+        x.done(0);
+        x.tick(1);
+        due("job " + k + " is the first of the row", x.process(k, 0), 0);
+    }
+
+    /** Job 0, of one segment, alone with 4 frames and 6 pages: each tick is a step of it. */
+    static DrumLayers begun(int quantum, int claims, int... program) {
+        DrumLayers x = new DrumLayers(4, 6, quantum);
+        submit(x, claims, program);
+        begin(x, 0);
+        return x;
+    }
+
+    /** So many wrong lines, each of which the console, alone in the row, answers by 2 bytes. */
+    static void sayWrong(DrumLayers x, int lines) {
+        for (int left = lines; left > 0; left -= 8) {
+            for (int i = 0; i < Math.min(left, 8); i++) {
+                x.type(10);
+            }
+            x.tick(Math.min(left, 8));
+        }
+    }
+
+    /** Whose step each of the next ticks is; '-' where the ready row is empty. */
+    static String order(DrumLayers x, int ticks) {
+        StringBuilder text = new StringBuilder();
+        for (int i = 0; i < ticks; i++) {
+            char first = '-';
+            for (int k = 0; k < 10 && first == '-'; k++) {
+                first = x.process(k, 0) == 0 ? (char) ('0' + k) : '-';
+            }
+            text.append(first);
+            x.tick(1);
+        }
+        return text.toString();
+    }
+
+    static void due(String what, String got, String want) {
+        if (!got.equals(want)) {
+            wrong++;
+            System.out.println(what + ": <" + got + ">, due is <" + want + ">");
+        }
     }
 
     static String said(DrumLayers x) {
@@ -97,9 +164,6 @@ final class Bench {
     }
 
     static void dueSaid(String what, DrumLayers x, String want) {
-        if (!said(x).equals(want)) {
-            wrong++;
-            System.out.println(what + ": said <" + said(x) + ">, due is <" + want + ">");
-        }
+        due(what + ", said", said(x), want);
     }
 }

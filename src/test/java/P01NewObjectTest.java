@@ -27,19 +27,16 @@ public final class P01NewObjectTest {
         for (int s = 0; s < 7; s++) {
             program[s] = Bench.LOAD + 16 * (s + 1);
         }
+        program[7] = Bench.JUMP + 7;
         for (int job = 0; job < 2; job++) {
             Bench.feed(x, program);
             x.submit(128, 0, 8, 100, 0);
             Bench.line(x, "A" + job);
         }
+        Bench.go(x, 85);
         int most = 0;
-        for (int i = 0; i < 150; i++) {
-            Bench.go(x, 1);
-            for (int f = 0; f < 40; f++) {
-                if (x.frame(f, 0) >= 0) {
-                    most = Math.max(most, f + 1);
-                }
-            }
+        for (int f = 0; f < 14; f++) {
+            most = x.frame(f, 0) >= 0 ? f + 1 : most;
         }
         return most;
     }

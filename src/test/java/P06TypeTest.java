@@ -19,10 +19,11 @@ public final class P06TypeTest {
         for (int e : Bench.EXTREMES) {
             Bench.due("type(" + e + ")", x.type(e), false);
         }
-        for (int b = 52; b <= 126; b++) {
-            x.type(10);
-            x.tick(1);
-            Bench.due("type(" + b + ") on a new line", x.type(b), true);
+        DrumLayers y = new DrumLayers(4, 1, 1);
+        for (int b = 32; b <= 126; b++) {
+            Bench.due("type(" + b + ") on a new line", y.type(b), true);
+            y.type(10);
+            y.tick(1);
         }
     }
 

@@ -24,12 +24,12 @@ public final class P13OctetTest {
         }
         for (int k = 5; k >= 0; k--) {
             Bench.line(x, "A" + k);
-            Bench.go(x, 10);
+            Bench.go(x, 7);
         }
         Bench.dueSaid("all ask", x, "5?\n4?\n3?\n2?\n1?\n0?\n");
         for (int k = 0; k < 6; k++) {
             Bench.line(x, "R" + k + " 1");
-            Bench.go(x, 10);
+            Bench.go(x, 5);
         }
         Bench.dueSaid("all are over", x, "5?\n4?\n3?\n2?\n1?\n0?\n0=1\n1=1\n2=1\n3=1\n4=1\n5=4\n");
     }
@@ -39,20 +39,15 @@ public final class P13OctetTest {
         Bench.submit(x, 0, Bench.ASK);
         Bench.line(x, "A0");
         Bench.go(x, 10);
-        for (int i = 0; i < 298; i++) {
-            x.type(10);
-            x.tick(1);
-        }
+        Bench.sayWrong(x, 298);
         Bench.due("599 bytes", x.about(7), 599);
         Bench.due("byte 598", x.octet(598), 10);
         Bench.due("no byte 599", x.octet(599), -1);
-        x.type(10);
-        x.tick(1);
+        Bench.sayWrong(x, 1);
         Bench.due("601 bytes said", x.about(7), 601);
         Bench.due("byte 599", x.octet(599), '?');
         Bench.due("byte 600 is not kept", x.octet(600), -1);
-        x.type(10);
-        x.tick(1);
+        Bench.sayWrong(x, 1);
         Bench.due("603 bytes said", x.about(7), 603);
         Bench.due("byte 602 is not kept", x.octet(602), -1);
         Bench.due("byte 0 is as it was", x.octet(0), '0');
