@@ -19,6 +19,7 @@ public final class P02FeedTest {
         Bench.due("word 5", x.word(1, 5), Integer.MAX_VALUE);
         Bench.due("word 6", x.word(1, 6), -1);
         refusedDoesNothing();
+        refusedLeavesRoomForNone();
         Bench.finish();
     }
 
@@ -31,5 +32,23 @@ public final class P02FeedTest {
         Bench.due("200 and 4", x.feed(9, 9, 9, 9), -1);
         x.submit(128, 0, 8, 1, 0);
         Bench.due("the last word", x.word(0, 127), 31);
+    }
+
+    /** "NONE, doing nothing: there would be more than 200": what was there is taken as it was. */
+    private static void refusedLeavesRoomForNone() {
+        DrumLayers x = new DrumLayers(4, 1, 1);
+        for (int i = 0; i < 50; i++) {
+            x.feed(i, i, i, i);
+        }
+        for (int i = 0; i < 3; i++) {
+            Bench.due("refused each time", x.feed(-1, -1, -1, -1), -1);
+        }
+        Bench.due("128 of 200 for a program", x.submit(128, 40, 8, 1, 0), 0);
+        for (int i = 0; i < 128; i++) {
+            Bench.due("word " + i, x.word(0, i), i / 4);
+        }
+        Bench.due("the tape begins anew", x.feed(7, 7, 7, 7), 4);
+        Bench.due("with what was fed behind it", x.submit(4, 0, 1, 1, 0), 1);
+        Bench.due("the first word", x.word(1, 0), 7);
     }
 }

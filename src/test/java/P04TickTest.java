@@ -2,6 +2,8 @@
 public final class P04TickTest {
     public static void main(String[] args) {
         numbers();
+        refusedDoesNothing();
+        manyAreAsManyOnes();
         aJobFromTickToTick();
         instructions();
         traps();
@@ -21,6 +23,33 @@ public final class P04TickTest {
             Bench.due("tick(" + e + ")", x.tick(e), -1);
         }
         Bench.due("tick(0)", x.tick(0), 201);
+    }
+
+    /** "NONE for others": no step is done then, and no number rises. */
+    private static void refusedDoesNothing() {
+        int[] others = {-1, 201, Integer.MIN_VALUE, Integer.MAX_VALUE};
+        for (int n : others) {
+            DrumLayers x = Bench.begun(1, 0, Bench.JUMP);
+            Bench.due("tick(" + n + ")", x.tick(n), -1);
+            Bench.due("tick(" + n + ") does no step", x.job(0, 2), 0);
+            Bench.due("tick(" + n + ") is no tick", x.about(0), 4);
+            Bench.due("tick(0) does nothing", x.tick(0), 4);
+            Bench.due("tick(0) does no step", x.job(0, 2), 0);
+            Bench.due("tick(200)", x.tick(200), 204);
+            Bench.due("tick(200) does 200 steps", x.job(0, 2), 200);
+        }
+    }
+
+    private static void manyAreAsManyOnes() {
+        DrumLayers x = Bench.begun(3, 0, Bench.JUMP);
+        DrumLayers y = Bench.begun(3, 0, Bench.JUMP);
+        x.tick(199);
+        for (int i = 0; i < 199; i++) {
+            y.tick(1);
+        }
+        Bench.due("199 and 199 times 1", x.about(0), y.about(0));
+        Bench.due("steps", x.job(0, 2), y.job(0, 2));
+        Bench.due("199 steps", x.job(0, 2), 199);
     }
 
     private static void aJobFromTickToTick() {

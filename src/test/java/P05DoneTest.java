@@ -6,6 +6,8 @@ public final class P05DoneTest {
         reader();
         printer();
         overWhileWritten();
+        falseDoesNothing();
+        aDoneIsForOneDevice();
         Bench.finish();
     }
 
@@ -156,5 +158,71 @@ public final class P05DoneTest {
             count += x.frame(f, 0) == -2 ? 1 : 0;
         }
         return count;
+    }
+
+    /** "false when it does nothing, or there is none such": nobody is woken, no signal is counted. */
+    private static void falseDoesNothing() {
+        DrumLayers x = new DrumLayers(4, 1, 1);
+        for (int device = -1; device <= 3; device++) {
+            Bench.due("done(" + device + ")", x.done(device), false);
+        }
+        Bench.feed(x, Bench.GET, Bench.GET + 1, Bench.GET + 2, Bench.READ, Bench.PRINT, Bench.ASK, 5);
+        x.submit(6, 1, 1, 50, 7);
+        Bench.line(x, "A0");
+        x.tick(3);
+        Bench.due("the drum was not done before", x.process(6, 1), 8);
+        Bench.due("the drum reads", x.about(1), 2);
+        Bench.due("done(3) is none such", x.done(3), false);
+        Bench.due("done(-1) is none such", x.done(-1), false);
+        Bench.due("the drum reads, still", x.about(1), 2);
+        x.done(0);
+        x.tick(6);
+        Bench.due("the reader was not done before", x.process(7, 1), 8);
+        Bench.due("the reader works", x.about(2), 1);
+        x.done(1);
+        Bench.due("the second time nothing is done", x.done(1), false);
+        x.tick(10);
+        Bench.due("no count of READER", x.job(0, 9), 1);
+        Bench.due("the printer was not done before", x.process(8, 1), 8);
+        Bench.due("the printer works", x.about(3), 1);
+        x.done(2);
+        Bench.due("the second time nothing is done", x.done(2), false);
+        x.tick(10);
+        Bench.due("one line on paper", x.job(0, 10), 1);
+        Bench.due("PRINTING waits for its work", x.process(8, 1), 7);
+    }
+
+    /** All three work: each is done by its own call. */
+    private static void aDoneIsForOneDevice() {
+        int[] order = {0, 1, 2, 0, 2, 1, 1, 0, 2, 1, 2, 0, 2, 0, 1, 2, 1, 0};
+        for (int i = 0; i < order.length; i += 3) {
+            DrumLayers x = allWork();
+            for (int j = 0; j < 3; j++) {
+                Bench.due("device " + order[i + j] + " works", x.done(order[i + j]), true);
+                Bench.due("once", x.done(order[i + j]), false);
+                int left = (x.about(1) == 0 ? 0 : 1) + x.about(2) + x.about(3);
+                Bench.due("so many work still", left, 2 - j);
+            }
+        }
+    }
+
+    private static DrumLayers allWork() {
+        DrumLayers x = new DrumLayers(6, 1, 1);
+        Bench.feed(x, Bench.GET, Bench.READ, Bench.END, 5);
+        x.submit(3, 1, 1, 50, 1);
+        Bench.submit(x, 6, Bench.GET + 1, Bench.GET + 2, Bench.PRINT, Bench.ASK);
+        Bench.submit(x, 0, Bench.END);
+        for (int k = 0; k < 3; k++) {
+            Bench.line(x, "A" + k);
+            for (int i = 0; i < 12 && k < 2; i++) {
+                x.tick(1);
+                x.done(0);
+            }
+        }
+        x.tick(10);
+        Bench.due("the drum reads", x.about(1), 2);
+        Bench.due("the reader works", x.about(2), 1);
+        Bench.due("the printer works", x.about(3), 1);
+        return x;
     }
 }

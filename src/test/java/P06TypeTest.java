@@ -2,7 +2,10 @@
 public final class P06TypeTest {
     public static void main(String[] args) {
         bytes();
+        byteEdges();
+        refusedByteIsNotInTheLine();
         lengths();
+        twentyBytesAndEightLines();
         rows();
         wrongLines();
         admission();
@@ -27,6 +30,62 @@ public final class P06TypeTest {
         }
     }
 
+    /** "A byte is typed (10, 32 to 126): true. False: another byte": each on a line of its own. */
+    private static void byteEdges() {
+        int[] good = {10, 32, 33, 125, 126};
+        int[] wrong = {-246, -1, 0, 9, 11, 13, 31, 127, 128, 255, 266, 288, 382, 65546, Integer.MIN_VALUE,
+            Integer.MAX_VALUE};
+        for (int b : good) {
+            Bench.due("type(" + b + ")", new DrumLayers(4, 1, 1).type(b), true);
+        }
+        for (int b : wrong) {
+            DrumLayers x = new DrumLayers(4, 1, 1);
+            Bench.due("type(" + b + ")", x.type(b), false);
+            Bench.due("type(" + b + ") is no line", x.about(10), 0);
+            Bench.due("type(" + b + ") wakes nobody", x.process(9, 0), -1);
+        }
+    }
+
+    private static void refusedByteIsNotInTheLine() {
+        int[] wrong = {9, 11, 31, 127, -1, 255};
+        for (int b : wrong) {
+            DrumLayers x = new DrumLayers(4, 1, 1);
+            x.submit(0, 0, 1, 1, 0);
+            x.type('A');
+            Bench.due("type(" + b + ")", x.type(b), false);
+            x.type('0');
+            x.type(10);
+            x.tick(1);
+            Bench.due("the line is A0", x.job(0, 0), 2);
+        }
+    }
+
+    /** "a line of 20 bytes already (but for 10), or 8 lines in the row (for 10)": both at once. */
+    private static void twentyBytesAndEightLines() {
+        DrumLayers x = new DrumLayers(4, 1, 1);
+        for (int i = 0; i < 8; i++) {
+            x.type(10);
+        }
+        for (int i = 1; i <= 21; i++) {
+            Bench.due("byte " + i + " behind eight lines", x.type('x'), i <= 20);
+        }
+        Bench.due("no ninth line", x.type(10), false);
+        Bench.due("no byte 21 either", x.type('x'), false);
+        Bench.due("eight wait", x.about(10), 8);
+        x.tick(1);
+        Bench.due("no byte 21, still", x.type('x'), false);
+        Bench.due("but the line", x.type(10), true);
+        Bench.due("a byte of the next line", x.type('x'), true);
+        Bench.due("no ninth line again", x.type(10), false);
+        x.tick(8);
+        Bench.due("nine wrong lines", x.about(7), 18);
+        Bench.due("none waits", x.about(10), 0);
+        Bench.due("the line that was refused", x.type(10), true);
+        x.tick(1);
+        Bench.due("ten wrong lines", x.about(7), 20);
+    }
+
+    /** "a line of 20 bytes already (but for 10)" */
     private static void lengths() {
         DrumLayers x = new DrumLayers(4, 1, 1);
         for (int i = 1; i <= 22; i++) {

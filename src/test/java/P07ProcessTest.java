@@ -2,6 +2,8 @@
 public final class P07ProcessTest {
     public static void main(String[] args) {
         others();
+        firstAndLast();
+        theWholeRow();
         causes();
         signalsAreCounted();
         roomAndEmptyLines();
@@ -114,5 +116,48 @@ public final class P07ProcessTest {
         x.tick(2);
         Bench.due("a page was given", x.job(0, 8), 1);
         Bench.due("it is free", x.about(6), 1);
+    }
+
+    /** "NONE for others": processes 0 and 9 and the numbers beside them, and so for what. */
+    private static void firstAndLast() {
+        DrumLayers x = Bench.begun(9, 0, Bench.ASK, Bench.JUMP + 1);
+        for (int k = -1; k <= 10; k++) {
+            Bench.due("process(" + k + ", -1)", x.process(k, -1), -1);
+            Bench.due("process(" + k + ", 2)", x.process(k, 2), -1);
+        }
+        Bench.due("process(0, 0)", x.process(0, 0), 0);
+        Bench.due("process(0, 1)", x.process(0, 1), 0);
+        Bench.due("process(-1, 0)", x.process(-1, 0), -1);
+        Bench.due("process(-1, 1)", x.process(-1, 1), -1);
+        Bench.due("process(5, 1) of no job", x.process(5, 1), 0);
+        Bench.due("process(6, 1)", x.process(6, 1), 7);
+        Bench.due("process(9, 0)", x.process(9, 0), -1);
+        x.type(10);
+        Bench.due("process(9, 0), woken", x.process(9, 0), 1);
+        Bench.due("process(9, 1), woken", x.process(9, 1), 0);
+        Bench.due("process(10, 0)", x.process(10, 0), -1);
+        Bench.due("process(10, 1)", x.process(10, 1), -1);
+    }
+
+    /** Six jobs and the console: places 0 to 6, the console being the last. */
+    private static void theWholeRow() {
+        DrumLayers x = new DrumLayers(12, 1, 1);
+        for (int k = 0; k < 6; k++) {
+            Bench.submit(x, 0, Bench.JUMP);
+            Bench.line(x, "A" + k);
+            Bench.go(x, 6);
+        }
+        Bench.go(x, 60);
+        x.type(10);
+        boolean[] taken = new boolean[7];
+        for (int k = 0; k < 6; k++) {
+            int place = x.process(k, 0);
+            boolean good = place >= 0 && place <= 5 && !taken[place];
+            Bench.due("place of " + k + " is " + place, good, true);
+            if (good) {
+                taken[place] = true;
+            }
+        }
+        Bench.due("the console is the last", x.process(9, 0), 6);
     }
 }

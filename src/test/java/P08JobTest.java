@@ -2,6 +2,8 @@
 public final class P08JobTest {
     public static void main(String[] args) {
         others();
+        othersInEachState();
+        theLastJob();
         noJob();
         overStays();
         claim();
@@ -148,5 +150,43 @@ public final class P08JobTest {
         Bench.due("eight lines", x.job(0, 11), 8);
         Bench.due("room", x.process(0, 1), 3);
         Bench.due("none on paper", x.job(0, 10), 0);
+    }
+
+    /** "NONE for others": of no job, one that waits for admission, an admitted one, one that is over. */
+    private static void othersInEachState() {
+        DrumLayers x = new DrumLayers(4, 1, 9);
+        Bench.submit(x, 0, Bench.END);
+        Bench.submit(x, 0, Bench.ASK);
+        Bench.submit(x, 0, Bench.ASK);
+        Bench.line(x, "A0");
+        Bench.line(x, "A1");
+        Bench.go(x, 20);
+        int[] states = {3, 2, 1, 0, 0, 0};
+        for (int k = -1; k <= 6; k++) {
+            Bench.due("job(" + k + ", -1)", x.job(k, -1), -1);
+            Bench.due("job(" + k + ", 13)", x.job(k, 13), -1);
+            Bench.due("job(" + k + ", 0)", x.job(k, 0), k >= 0 && k < 6 ? states[k] : -1);
+            Bench.due("job(" + k + ", 12)", x.job(k, 12), k >= 0 && k < 6 ? 0 : -1);
+        }
+    }
+
+    private static void theLastJob() {
+        DrumLayers x = new DrumLayers(4, 1, 9);
+        for (int k = 0; k < 6; k++) {
+            Bench.submit(x, 6, Bench.GET + 1, Bench.GET + 2, Bench.SET + 9, Bench.PRINT, Bench.END);
+        }
+        Bench.line(x, "A5");
+        Bench.go(x, 30);
+        int[] want = {3, 1, 5, 5, 9, 0, 0, 1, 1, 0, 1, 0, 0};
+        for (int what = 0; what < want.length; what++) {
+            Bench.due("job(5, " + what + ")", x.job(5, what), want[what]);
+            Bench.due("job(4, " + what + ")", x.job(4, what), what == 0 ? 1 : 0);
+            Bench.due("job(6, " + what + ")", x.job(6, what), -1);
+        }
+        Bench.due("paper(5, 0)", x.paper(5, 0), 9);
+        Bench.due("paper(5, 1)", x.paper(5, 1), 0);
+        Bench.due("paper(5, -1)", x.paper(5, -1), 0);
+        Bench.due("paper(4, 0)", x.paper(4, 0), 0);
+        Bench.due("paper(6, 0)", x.paper(6, 0), 0);
     }
 }

@@ -27,6 +27,7 @@ public final class P09PaperTest {
         Bench.due("gone with the old job", x.paper(0, 0), 0);
         Bench.due("the other's stays", x.paper(1, 0), 70);
         many();
+        notYetOnPaper();
         Bench.finish();
     }
 
@@ -47,5 +48,27 @@ public final class P09PaperTest {
         for (int i = 0; i < 150; i += 7) {
             Bench.due("line " + i, x.paper(0, i), i + 1);
         }
+    }
+
+    /** "0 when there is none": a line that is printed, but not yet on paper, is none. */
+    private static void notYetOnPaper() {
+        DrumLayers x = Bench.begun(9, 6, Bench.GET + 1, Bench.GET + 2, Bench.SET + 5, Bench.PRINT,
+                Bench.SET + 6, Bench.PRINT, Bench.ASK);
+        Bench.due("no line at first", x.paper(0, 0), 0);
+        x.tick(20);
+        Bench.due("two lines", x.job(0, 11), 2);
+        Bench.due("the printer works: none is there", x.paper(0, 0), 0);
+        x.done(2);
+        Bench.due("nor when it is done", x.paper(0, 0), 0);
+        x.tick(1);
+        Bench.due("but behind PRINTING's step", x.paper(0, 0), 5);
+        Bench.due("the next is none", x.paper(0, 1), 0);
+        x.tick(1);
+        x.done(2);
+        x.tick(1);
+        Bench.due("the next one", x.paper(0, 1), 6);
+        Bench.due("the first, still", x.paper(0, 0), 5);
+        Bench.due("no third", x.paper(0, 2), 0);
+        Bench.due("none before the first", x.paper(0, -1), 0);
     }
 }

@@ -3,6 +3,8 @@ public final class P10WordTest {
     public static void main(String[] args) {
         others();
         coreAndDrum();
+        firstAndLast();
+        atTheEndOfTheSegments();
         Bench.finish();
     }
 
@@ -67,5 +69,39 @@ public final class P10WordTest {
         Bench.due("what was written came back", x.job(0, 4), 5);
         Bench.due("and is there", x.word(0, 16), 5);
         Bench.due("the other words", x.word(0, 6), Bench.JUMP + 6);
+    }
+
+    private static void firstAndLast() {
+        DrumLayers x = new DrumLayers(12, 1, 1);
+        for (int k = 0; k < 6; k++) {
+            Bench.due("no job " + k, x.word(k, 0), 0);
+            Bench.submit(x, 0, 100 + k, 200 + k);
+        }
+        for (int k = 0; k < 6; k++) {
+            Bench.due("word 0 of " + k, x.word(k, 0), 100 + k);
+            Bench.due("word 1 of " + k, x.word(k, 1), 200 + k);
+        }
+        Bench.due("no job 6", x.word(6, 0), 0);
+        Bench.due("no job -1", x.word(-1, 0), 0);
+    }
+
+    /** "0 when there is none such": the last word of so many segments, on the drum and in core. */
+    private static void atTheEndOfTheSegments() {
+        for (int segments = 1; segments <= 8; segments++) {
+            DrumLayers x = new DrumLayers(4, 1, 9);
+            int last = 16 * segments - 1;
+            int[] program = Bench.words(16 * segments, 0, Bench.SET + 9, 1, Bench.STORE + last,
+                    2, Bench.ASK, last, 77);
+            Bench.deck(x, program, new int[0], segments, 50, 0);
+            Bench.due("on the drum, word " + last, x.word(0, last), 77);
+            Bench.due("on the drum, behind it", x.word(0, last + 1), 0);
+            Bench.line(x, "A0");
+            Bench.go(x, 20);
+            Bench.due("in core, word " + last, x.word(0, last), 9);
+            Bench.due("in core, behind it", x.word(0, last + 1), 0);
+            Bench.due("in core, the first", x.word(0, 0), Bench.SET + 9);
+            Bench.due("in core, before it", x.word(0, -1), 0);
+            Bench.due("before it by a segment", x.word(0, -16), 0);
+        }
     }
 }

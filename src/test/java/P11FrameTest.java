@@ -2,6 +2,7 @@
 public final class P11FrameTest {
     public static void main(String[] args) {
         others();
+        firstAndLast();
         life();
         usedOfATrap();
         choice();
@@ -26,6 +27,29 @@ public final class P11FrameTest {
             Bench.due("frame(0, " + e + ")", x.frame(0, e), -1);
         }
         Bench.due("frame(0, 5)", x.frame(0, 5), -1);
+    }
+
+    /** The first and the last frame that there is, and the ones beside them. */
+    private static void firstAndLast() {
+        for (int frames = 4; frames <= 8; frames++) {
+            DrumLayers x = new DrumLayers(frames, 1, 9);
+            int[] program = new int[128];
+            for (int s = 1; s < frames; s++) {
+                program[s - 1] = Bench.LOAD + 16 * s;
+            }
+            program[frames - 1] = Bench.ASK;
+            Bench.feed(x, program);
+            x.submit(128, 0, 8, 100, 0);
+            Bench.line(x, "A0");
+            Bench.go(x, 50);
+            due("the first", x, 0, 0, 0);
+            due("the last of " + frames, x, frames - 1, 0, frames - 1);
+            due("behind the last", x, frames, -1, -1, -1, -1, -1);
+            due("before the first", x, -1, -1, -1, -1, -1, -1);
+            Bench.due("of the last, what 4", x.frame(frames - 1, 4) > 0, true);
+            Bench.due("of the last, what 5", x.frame(frames - 1, 5), -1);
+            Bench.due("of the last, what -1", x.frame(frames - 1, -1), -1);
+        }
     }
 
     private static void life() {
