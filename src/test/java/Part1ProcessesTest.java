@@ -13,6 +13,7 @@ public final class Part1ProcessesTest {
         countRises();
         countOfPrints();
         countOfWanted();
+        aStepIsOfTheFirstAlone();
         Bench.finish();
     }
 
@@ -224,5 +225,33 @@ public final class Part1ProcessesTest {
         }
         x.tick(3);
         Bench.dueSaid("each was woken in its order", x, "0?\n1?\n2?\n");
+    }
+
+    /** "the first of the row, if there is one, does one STEP": no other process does one with it. */
+    private static void aStepIsOfTheFirstAlone() {
+        DrumLayers x = new DrumLayers(4, 1, 9);
+        Bench.deck(x, new int[] {Bench.GET, Bench.READ, Bench.JUMP + 2}, new int[] {5, 6}, 1, 50, 1);
+        Bench.begin(x, 0);
+        x.tick(3);
+        Bench.due("the reader works", x.about(2), 1);
+        Bench.submit(x, 0, Bench.ASK);
+        Bench.line(x, "A1");
+        x.tick(2);
+        Bench.due("SEGMENTS is the first", x.process(6, 0), 0);
+        x.tick(1);
+        Bench.due("its step is none of READING", x.job(0, 9), 0);
+        x.done(0);
+        x.tick(2);
+        Bench.due("nor is the next one", x.job(0, 9), 0);
+        Bench.due("READING waits for the reader", x.process(7, 1), 8);
+        x = Bench.begun(9, 6, Bench.GET + 1, Bench.GET + 2, Bench.PRINT, Bench.ASK);
+        x.tick(4);
+        Bench.due("PRINTING is the first", x.process(8, 0), 0);
+        x.type(10);
+        x.tick(1);
+        Bench.due("its step is none of the console", x.about(10), 1);
+        Bench.due("the console is the first then", x.process(9, 0), 0);
+        x.tick(1);
+        Bench.due("and has its own", x.about(10), 0);
     }
 }

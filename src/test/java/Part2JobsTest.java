@@ -17,6 +17,7 @@ public final class Part2JobsTest {
         divisions();
         divisionByZero();
         jumpsOnA();
+        onlyWhatIsTold();
         limitJustReached();
         limitOf5000();
         limitCountsWhatOthersDid();
@@ -413,6 +414,26 @@ public final class Part2JobsTest {
         Bench.due("the program's last word", x.word(0, 2), 7);
         for (int i = 3; i < 128; i++) {
             Bench.due("behind the program, word " + i, x.word(0, i), 0);
+        }
+    }
+
+    /** Each kind sets A, X or PLACE as told, and leaves the others as they were. */
+    private static void onlyWhatIsTold() {
+        int[][] rows = {{Bench.LOAD, 3, 20}, {Bench.STORE, 12, 20}, {Bench.ADD, 15, 20}, {Bench.SUB, 9, 20},
+            {Bench.MUL, 36, 20}, {Bench.DIV, 4, 20}, {Bench.SETX, 12, 3}, {Bench.SET, 31, 20},
+            {Bench.TAKEX, 20, 20}, {Bench.BELOW, 12, 20}, {Bench.ZERO, 12, 20}};
+        for (int[] row : rows) {
+            DrumLayers x = new DrumLayers(4, 1, 9);
+            Bench.deck(x, Bench.words(32, 0, Bench.SETX + 8, 1, Bench.SET + 12, 2, row[0] + 31, 3, Bench.ASK,
+                    8, 20, 31, 3), NO_CARDS, 2, 50, 0);
+            Bench.line(x, "A0");
+            Bench.go(x, 20);
+            String what = "kind " + row[0] / 256;
+            Bench.due(what + ", A", x.job(0, 4), row[1]);
+            Bench.due(what + ", X", x.job(0, 5), row[2]);
+            Bench.due(what + ", PLACE", x.job(0, 3), 3);
+            Bench.due(what + ", steps", x.job(0, 2), 3);
+            Bench.due(what + ", the word", x.word(0, 31), row[0] == Bench.STORE ? 12 : 3);
         }
     }
 }

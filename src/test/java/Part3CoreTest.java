@@ -24,6 +24,7 @@ public final class Part3CoreTest {
         notOverItIsWritten();
         wantedWhileItIsWritten();
         broughtBackAsWritten();
+        theFirstWordIsWritten();
         Bench.finish();
     }
 
@@ -447,5 +448,28 @@ public final class Part3CoreTest {
         for (int i = 80; i < 96; i++) {
             Bench.due("word " + i + " in core", x.word(0, i), i == 80 || i == 95 ? 5 : i);
         }
+    }
+
+    /** Word 0 of a job, and its last word of eight segments, are written and come again like others. */
+    private static void theFirstWordIsWritten() {
+        DrumLayers x = new DrumLayers(4, 1, 9);
+        int[] program = Bench.words(128, 0, Bench.SET + 5, 1, Bench.STORE, 2, Bench.STORE + 127,
+                3, Bench.JUMP + 16, 16, Bench.LOAD + 32, 17, Bench.LOAD + 48, 18, Bench.LOAD + 64,
+                19, Bench.LOAD + 80, 20, Bench.ADD, 21, Bench.ADD + 127, 22, Bench.ASK);
+        Bench.deck(x, program, NO_CARDS, 8, 100, 0);
+        Bench.line(x, "A0");
+        untilTheDrum(x, 1);
+        Bench.due("word 0, as it is written", x.word(0, 0), 5);
+        x.done(0);
+        Bench.due("word 0, written", x.word(0, 0), 5);
+        untilTheDrum(x, 2);
+        x.done(0);
+        untilTheDrum(x, 1);
+        Bench.due("word 127, as it is written", x.word(0, 127), 5);
+        x.done(0);
+        Bench.due("word 127, written", x.word(0, 127), 5);
+        Bench.go(x, 60);
+        Bench.due("it came to its end", x.process(0, 1), 5);
+        Bench.due("both came again", x.job(0, 4), 10);
     }
 }

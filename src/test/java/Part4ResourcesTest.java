@@ -12,6 +12,7 @@ public final class Part4ResourcesTest {
         lastPage();
         justSafe();
         safeInALongOrder();
+        safeInTheLongestOrder();
         onlyAdmittedJobsCount();
         endingJobsCount();
         giveOfWhatItHasNot();
@@ -433,5 +434,23 @@ public final class Part4ResourcesTest {
         drumOnly(x, 20);
         Bench.due("1 is cancelled", x.job(1, 1), 5);
         Bench.due("2 asks", x.process(2, 1), 5);
+    }
+
+    /** Six jobs that hold a page each, none being free: 5 can end, then 4, and so on, 0 the last. */
+    private static void safeInTheLongestOrder() {
+        for (int claimsOf5 = 1; claimsOf5 <= 2; claimsOf5++) {
+            DrumLayers x = new DrumLayers(12, 6, 9);
+            for (int k = 0; k < 6; k++) {
+                admit(x, 4 * (k < 5 ? 6 - k : claimsOf5), Bench.ASK, Bench.GET + 2, Bench.ASK);
+            }
+            for (int k = 5; k >= 1; k--) {
+                reply(x, k);
+                Bench.due(k + " has a page", x.job(k, 8), 1);
+            }
+            Bench.due("one page is left", x.about(6), 1);
+            reply(x, 0);
+            Bench.due("0 has it only if 5 needs no more", x.job(0, 8), claimsOf5 == 1 ? 1 : 0);
+            Bench.due("or waits", x.process(0, 1), claimsOf5 == 1 ? 5 : 6);
+        }
     }
 }

@@ -16,10 +16,13 @@ public final class Part5DevicesTest {
         wokenForRoom();
         wokenForEmptyLines();
         linesComeInTheirOrder();
+        printsForTheOneThatHoldsThePrinter();
+        cardsOfANewJob();
         asking();
         repliesOfSoManyDigits();
         repliesAreNotWaitedFor();
         linesOfTheirLength();
+        nothingOfEarlierLines();
         jobsOfTheirNumber();
         admissionJustReached();
         admissionCountsThoseNotOver();
@@ -529,5 +532,83 @@ public final class Part5DevicesTest {
         x.tick(2);
         Bench.due("cancelled", x.job(0, 1), 5);
         Bench.due("ASK was not done", x.job(0, 2), 1);
+    }
+
+    /** "the first line of the job that holds it": not of others, also if they hold pages, or held it. */
+    private static void printsForTheOneThatHoldsThePrinter() {
+        DrumLayers x = new DrumLayers(6, 3, 9);
+        Bench.submit(x, 2 + 4, Bench.GET + 2, Bench.ASK);
+        Bench.submit(x, 2 + 4, Bench.GET + 1, Bench.GET + 2, Bench.SET + 9, Bench.PRINT, Bench.SET + 8,
+                Bench.PRINT, Bench.ASK);
+        Bench.submit(x, 2 + 4, Bench.GET + 2, Bench.ASK);
+        for (int k = 0; k < 3; k++) {
+            Bench.line(x, "A" + k);
+            Bench.go(x, 14);
+        }
+        int[] pages = {1, 1, 1};
+        int[] lines = {0, 2, 0};
+        for (int k = 0; k < 3; k++) {
+            Bench.due("pages of " + k, x.job(k, 8), pages[k]);
+            Bench.due("lines on the paper of " + k, x.job(k, 10), lines[k]);
+            Bench.due("lines not yet there of " + k, x.job(k, 11), 0);
+        }
+        Bench.due("the first line", x.paper(1, 0), 9);
+        Bench.due("the second line", x.paper(1, 1), 8);
+        x = new DrumLayers(4, 1, 9);
+        Bench.submit(x, 6, Bench.GET + 1, Bench.GET + 2, Bench.SET + 1, Bench.PRINT, Bench.GIVE + 1,
+                Bench.GIVE + 2, Bench.ASK);
+        Bench.submit(x, 6, Bench.GET + 1, Bench.GET + 2, Bench.SET + 2, Bench.PRINT, Bench.ASK);
+        for (int k = 0; k < 2; k++) {
+            Bench.line(x, "A" + k);
+            Bench.go(x, 20);
+            Bench.due("one line of " + k, x.job(k, 10), 1);
+            Bench.due("its line", x.paper(k, 0), k + 1);
+        }
+        Bench.due("0 has one, still", x.job(0, 10), 1);
+    }
+
+    /** A new job of a number has its own cards, from the first one on. */
+    private static void cardsOfANewJob() {
+        DrumLayers x = withCards(2, 1, Bench.GET, Bench.READ, Bench.READ, Bench.END);
+        Bench.go(x, 20);
+        Bench.due("two cards were read", x.job(0, 9), 2);
+        Bench.due("over", x.job(0, 0), 3);
+        Bench.deck(x, new int[] {Bench.GET, Bench.READ, Bench.ASK, Bench.READ}, new int[] {77}, 1, 50, 1);
+        Bench.due("none was read of the new ones", x.job(0, 9), 0);
+        Bench.line(x, "A0");
+        Bench.go(x, 12);
+        Bench.due("its first card", x.job(0, 4), 77);
+        Bench.due("one was read", x.job(0, 9), 1);
+        Bench.line(x, "R0 1");
+        Bench.go(x, 4);
+        Bench.due("no card is left", x.job(0, 1), 4);
+    }
+
+    /** A line is what was typed for it: nothing is left of longer lines that came before. */
+    private static void nothingOfEarlierLines() {
+        String[][] rows = {{"A1", "A"}, {"A1", ""}, {"C0", "C"}, {"C0", ""}, {"R0 7", "R0 "}, {"R0 7", "R0"},
+            {"R0 7", "R"}, {"R0 7", ""}, {"R0 -7", "R0 -"}, {"R0 -7", "R0 "}};
+        for (String[] row : rows) {
+            DrumLayers x = new DrumLayers(4, 1, 9);
+            Bench.submit(x, 0, Bench.SET + 50, Bench.ASK);
+            for (int i = 0; i < 8; i++) {
+                Bench.line(x, row[0]);
+            }
+            x.tick(8);
+            Bench.due("all are wrong before 0 is admitted", x.about(7), 16);
+            Bench.begin(x, 0);
+            x.tick(2);
+            Bench.due("0 waits for a reply", x.process(0, 1), 5);
+            Bench.submit(x, 0, Bench.ASK);
+            for (int i = 0; i < 8; i++) {
+                Bench.line(x, row[1]);
+                x.tick(1);
+            }
+            String what = "<" + row[1] + "> behind <" + row[0] + ">";
+            Bench.due(what + " is wrong", x.about(7), 16 + 3 + 16);
+            Bench.due(what + ": 0 waits for a reply, still", x.process(0, 1), 5);
+            Bench.due(what + ": 0 is not told", x.job(0, 12), 0);
+            Bench.due(what + ": 1 waits for admission", x.job(1, 0), 1);
+        }
     }
 }
