@@ -25,6 +25,7 @@ public final class Part3CoreTest {
         wantedWhileItIsWritten();
         broughtBackAsWritten();
         theFirstWordIsWritten();
+        theWordsBesideStay();
         Bench.finish();
     }
 
@@ -471,5 +472,26 @@ public final class Part3CoreTest {
         Bench.go(x, 60);
         Bench.due("it came to its end", x.process(0, 1), 5);
         Bench.due("both came again", x.job(0, 4), 10);
+    }
+
+    /** What is written is one segment: the word before it, and the one behind it, stay on the drum. */
+    private static void theWordsBesideStay() {
+        DrumLayers x = new DrumLayers(4, 1, 9);
+        int[] program = Bench.words(128, 0, Bench.SET + 5, 1, Bench.STORE + 48, 2, Bench.STORE + 63,
+                3, Bench.LOAD + 80, 4, Bench.LOAD + 96, 5, Bench.LOAD + 112, 6, Bench.LOAD + 47,
+                7, Bench.ADD + 64, 8, Bench.ASK, 47, 700, 64, 70);
+        Bench.deck(x, program, NO_CARDS, 8, 100, 0);
+        Bench.line(x, "A0");
+        untilTheDrum(x, 1);
+        Bench.due("segment 3 is written", x.word(0, 48), 5);
+        x.done(0);
+        Bench.due("the word before it", x.word(0, 47), 700);
+        Bench.due("its first word", x.word(0, 48), 5);
+        Bench.due("its second word", x.word(0, 49), 0);
+        Bench.due("its last word", x.word(0, 63), 5);
+        Bench.due("the word behind it", x.word(0, 64), 70);
+        Bench.go(x, 60);
+        Bench.due("it came to its end", x.process(0, 1), 5);
+        Bench.due("both came as they were", x.job(0, 4), 770);
     }
 }
