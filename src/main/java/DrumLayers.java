@@ -1106,10 +1106,9 @@ public final class DrumLayers {
         private int said;
         private final byte[] typed = new byte[TYPED_BYTES];
         private int typedLength;
-        // A ring of lines that wait: the first one stands at head.
+        // The lines that wait: the first one stands at 0.
         private final byte[][] texts = new byte[TYPED_LINES][TYPED_BYTES];
         private final int[] lengths = new int[TYPED_LINES];
-        private int head;
         private int waiting;
 
         Console(Processor processor, Core core, Bank bank, Job[] jobs) {
@@ -1134,14 +1133,13 @@ public final class DrumLayers {
         }
 
         private boolean acceptLine() {
-            if (waiting >= TYPED_LINES) {
+            if (waiting < 0 || waiting >= TYPED_LINES) {
                 return false;
             }
-            int slot = Math.floorMod(head + waiting, TYPED_LINES);
             for (int i = 0; i < typedLength && i < TYPED_BYTES; i++) {
-                texts[slot][i] = typed[i];
+                texts[waiting][i] = typed[i];
             }
-            lengths[slot] = typedLength;
+            lengths[waiting] = typedLength;
             typedLength = 0;
             waiting++;
             lines.v();
@@ -1154,10 +1152,19 @@ public final class DrumLayers {
                     say('?');
                     say(NEW_LINE);
                 }
-                head = Math.floorMod(head + 1, TYPED_LINES);
-                waiting--;
+                dropFirst();
             }
             lines.p();
+        }
+
+        private void dropFirst() {
+            for (int n = 1; n < waiting && n < TYPED_LINES; n++) {
+                for (int i = 0; i < TYPED_BYTES; i++) {
+                    texts[n - 1][i] = texts[n][i];
+                }
+                lengths[n - 1] = lengths[n];
+            }
+            waiting--;
         }
 
         /** Does what the first line asks; false, doing nothing, when it is not to be done. */
@@ -1166,7 +1173,7 @@ public final class DrumLayers {
             if (job == null) {
                 return false;
             }
-            boolean isShort = lengths[head] == 2;
+            boolean isShort = lengths[0] == 2;
             switch (signAt(0)) {
                 case 'A':
                     return isShort && admits(job);
@@ -1203,11 +1210,11 @@ public final class DrumLayers {
 
         private boolean replies(Job job) {
             int start = signAt(3) == '-' ? 4 : 3;
-            int digits = lengths[head] - start;
+            int digits = lengths[0] - start;
             boolean good = signAt(2) == ' ' && digits >= 1 && digits <= 9
                     && processor.causeOf(job.number) == FOR_REPLY;
             int number = 0;
-            for (int i = start; good && i < lengths[head]; i++) {
+            for (int i = start; good && i < lengths[0]; i++) {
                 good = digitAt(i) != NONE;
                 number = number * 10 + digitAt(i);
             }
@@ -1220,7 +1227,7 @@ public final class DrumLayers {
         }
 
         private int signAt(int i) {
-            return i >= 0 && i < lengths[head] && i < TYPED_BYTES ? texts[head][i] : NONE;
+            return i >= 0 && i < lengths[0] && i < TYPED_BYTES ? texts[0][i] : NONE;
         }
 
         private int digitAt(int i) {
